@@ -22,7 +22,12 @@ public final class RandomRunsTest {
     }
 
     private int below(int n) {
-        return random.nextInt(6) == 0 ? EDGES[random.nextInt(EDGES.length)] : random.nextInt(n);
+        return random.nextInt(9) == 0 ? EDGES[random.nextInt(EDGES.length)] : random.nextInt(n);
+    }
+
+    /** Mostly one of those that there are. */
+    private int oneOf(int many) {
+        return below(random.nextInt(9) == 0 ? many + 1 : Math.max(1, many));
     }
 
     private void readText() {
@@ -56,12 +61,12 @@ public final class RandomRunsTest {
 
     private void callOne() {
         String call = CALLS[random.nextInt(CALLS.length)];
-        int noise = below(5);
-        int place = below(3);
-        int shot = below(4);
+        int noise = oneOf(model.count(0));
+        int place = oneOf(model.count(1));
+        int shot = oneOf(model.count(2));
         int what = below(2);
         int ahead = below(random.nextBoolean() ? 301 : 30);
-        int n = below(random.nextBoolean() ? 31 : 9);
+        int n = below(random.nextBoolean() ? 31 : 9) + (random.nextBoolean() ? 1 : 0);
         int limit = below(100);
         String said = call + "[noise " + noise + " place " + place + " shot " + shot + " what " + what + " ahead "
             + ahead + " n " + n + " limit " + limit + "]";
@@ -78,8 +83,8 @@ public final class RandomRunsTest {
             case "moves" -> compare(said, program.moves(place), model.moves(place));
             case "pay" -> compare(said, program.pay(noise, ahead), model.pay(noise, ahead));
             case "undo" -> compare(said, program.undo(), model.undo());
-            case "hold" -> compare(said, program.hold(place), model.hold(place));
-            case "restore" -> compare(said, program.restore(place), model.restore(place));
+            case "hold" -> compare(said, program.hold(n % 5), model.hold(n % 5));
+            case "restore" -> compare(said, program.restore(n % 5), model.restore(n % 5));
             case "back" -> compare(said, program.back(n), model.back(n));
             case "place" -> compare(said, program.place(), model.place());
             default -> {
@@ -98,11 +103,11 @@ public final class RandomRunsTest {
         int n = args[5];
         int limit = args[6];
         switch (call) {
-            case "noise" -> compare(said, program.noise(noise, n), model.noise(noise, n));
-            case "shot" -> compare(said, program.shot(shot, n), model.shot(shot, n));
+            case "noise" -> compare(said, program.noise(noise, n % 10), model.noise(noise, n % 10));
+            case "shot" -> compare(said, program.shot(shot, n % 7), model.shot(shot, n % 7));
             case "heard" -> compare(said, program.heard(noise, place, ahead), model.heard(noise, place, ahead));
             case "loud" -> compare(said, program.loud(place, ahead), model.loud(place, ahead));
-            case "bears" -> compare(said, program.bears(shot, n), model.bears(shot, n));
+            case "bears" -> compare(said, program.bears(shot, n % 9), model.bears(shot, n % 9));
             case "hole" -> compare(said, program.hole(place, n, limit), model.hole(place, n, limit));
             case "holes" -> compare(said, program.holes(place, n, limit), model.holes(place, n, limit));
             case "softest" -> compare(said, program.softest(place, n, what), model.softest(place, n, what));
@@ -114,7 +119,7 @@ public final class RandomRunsTest {
             case "best" -> compare(said, program.best(shot, what), model.best(shot, what));
             case "order" -> compare(said, program.order(shot - 1), model.order(shot - 1));
             case "bribe" -> compare(said, program.bribe(shot, what), model.bribe(shot, what));
-            case "cellar" -> compare(said, program.cellar(ahead, what), model.cellar(ahead, what));
+            case "cellar" -> compare(said, program.cellar(ahead * 2, what), model.cellar(ahead * 2, what));
             case "cheapest" -> compare(said, program.cheapest(shot, what), model.cheapest(shot, what));
             case "breakOff" -> compare(said, program.breakOff(shot, ahead), model.breakOff(shot, ahead));
             case "join" -> compare(said, program.join(shot), model.join(shot));
@@ -122,7 +127,7 @@ public final class RandomRunsTest {
             case "forget" -> compare(said, program.forget(), model.forget());
             case "tell" -> tellOne(said, place, limit);
             case "when" -> whenOne(said, n - 1);
-            default -> compare(said, program.count(n), model.count(n));
+            default -> compare(said, program.count(n % 15), model.count(n % 15));
         }
     }
 

@@ -27,7 +27,7 @@ final class RandomTexts {
 
     private String name() {
         names++;
-        return "n" + (char) ('a' + names % 26) + (char) ('a' + names / 26 % 26);
+        return "n" + (char) ('a' + names % 26) + "b";
     }
 
     String text() {
@@ -133,11 +133,28 @@ final class RandomTexts {
             : String.valueOf(onceIn(4) ? among(0, 9999) : among(0, 12));
     }
 
+    /** A NAME told twice, or a number that may be WRONG: no FAULT of the grammar. */
+    private String misnumbered(String text) {
+        String[] words = text.split(" ");
+        int i = random.nextInt(words.length);
+        for (int tries = 0; tries < 9 && !words[i].matches("n[a-z][a-z]|[0-9]{1,4}"); tries++) {
+            i = random.nextInt(words.length);
+        }
+        if (words[i].matches("n[a-z][a-z]")) {
+            words[i] = "nbb";
+        } else if (words[i].matches("[0-9]{1,4}")) {
+            words[i] = new String[] {"0", "10", "21", "100", "101", "1000", "9999"}[random.nextInt(7)];
+        }
+        return String.join(" ", words);
+    }
+
     private String spoilt(String text) {
         StringBuilder spoilt = new StringBuilder(text);
         for (int i = among(1, 3); i > 0; i--) {
             int at = random.nextInt(spoilt.length() + 1);
-            if (random.nextBoolean()) {
+            if (onceIn(3)) {
+                spoilt = new StringBuilder(misnumbered(spoilt.toString()));
+            } else if (random.nextBoolean()) {
                 spoilt.insert(at, " " + STRAY[random.nextInt(STRAY.length)] + " ");
             } else if (random.nextBoolean()) {
                 spoilt.delete(at, Math.min(spoilt.length(), at + among(1, 6)));
