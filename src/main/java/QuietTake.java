@@ -295,10 +295,10 @@ public final class QuietTake {
             return NONE;
         }
         survey.face(place);
-        int least = survey.greatest(0, n);
+        int least = LOUDEST_NOISE + 1;
         int begin = 0;
-        for (int offset = 1; offset <= AHEAD; offset++) {
-            int greatest = survey.greatest(offset, n);
+        for (int offset = 0; offset <= AHEAD; offset++) {
+            int greatest = survey.greatest(offset, n, least);
             if (greatest < least) {
                 least = greatest;
                 begin = offset;
@@ -338,7 +338,7 @@ public final class QuietTake {
             return NONE;
         }
         survey.face(place);
-        int greatest = survey.greatest(0, AHEAD);
+        int greatest = survey.greatest(0, AHEAD, LOUDEST_NOISE);
         int offset = 0;
         while (offset < AHEAD && survey.noiseAt(offset) < greatest) {
             offset++;
@@ -354,7 +354,7 @@ public final class QuietTake {
         int least = LOUDEST_NOISE + 1;
         for (int place = 0; place < script.places; place++) {
             survey.face(place);
-            int greatest = survey.greatest(0, n);
+            int greatest = survey.greatest(0, n, least);
             if (greatest < least) {
                 least = greatest;
                 calmest = place;
@@ -1546,9 +1546,10 @@ public final class QuietTake {
             return noiseWithout(NONE, soundAt(offset));
         }
 
-        int greatest(int offset, int n) {
+        /** The greatest NOISE of n SECONDS, or of the first of them, if that is no less than what is enough. */
+        int greatest(int offset, int n, int enough) {
             int greatest = 0;
-            for (int i = 0; i < n; i++) {
+            for (int i = 0; i < n && greatest < enough; i++) {
                 greatest = Math.max(greatest, noiseAt(offset + i));
             }
             return greatest;

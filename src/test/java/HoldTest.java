@@ -30,7 +30,9 @@ public final class HoldTest {
         DUE.is("restore 3", x.restore(3), false);
         DUE.is("restore -1", x.restore(-1), false);
         DUE.is("restore the greatest int", x.restore(Integer.MAX_VALUE), false);
+        DUE.is("restore 0", x.restore(0), true);
         DUE.is("restore 1", x.restore(1), true);
+        DUE.is("restore 2", x.restore(2), true);
         DUE.is("three held yet", x.count(12), 3);
     }
 

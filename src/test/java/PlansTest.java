@@ -101,6 +101,12 @@ public final class PlansTest {
         DUE.is("it cannot now: whom", x.bribe(0, 0), 0);
         DUE.is("it cannot now: how much", x.bribe(0, 1), 301);
         DUE.is("two at once", DUE.told(always + "clock m 0 1 1 50 0;").bribe(0, 0), -2);
+        x = DUE.told(always + "bears = day/300*99;");
+        DUE.is("it can at 300: how much", x.bribe(0, 1), 300);
+        x = DUE.told("place p 0; shot s 1 9; clock n 0 99 1 50 0;");
+        DUE.is("sooner by 1", x.bribe(0, 1), 1);
+        x = DUE.told("place p 0; shot s 1 9; clock m 0 1 1 40 0; clock n 0 1 1 50 0;");
+        DUE.is("the softer one is in the way too", x.bribe(0, 0), -2);
         // Paid for 300 SECONDS: a TAKE of 9 can begin at 291, not at 292.
         String wall = "clock wa 0 999 99 10 0; clock wb 99 999 99 10 0; clock wc 198 999 ";
         x = DUE.told(always + wall + "93 10 0;");
@@ -141,6 +147,10 @@ public final class PlansTest {
             + "clock d 5 9 1 99 3; clock e 4 9 1 50 0; coins 0;");
         DUE.is("three of five", x.cheapest(0, 1), 21);
         DUE.is("whatever one has", x.cheapest(0, 0), 510);
+        x = DUE.told("place p 0; shot s 4 20; clock a 0 9 1 20 9; clock b 1 9 1 60 2; clock c 2 9 1 60 3;"
+            + "clock d 3 9 1 60 1; bears = limit + day * 20;");
+        DUE.is("by what is borne when", x.cheapest(0, 1), 2);
+        DUE.is("two for each second", x.cheapest(0, 0), 8);
         x = DUE.told("place p 0; shot s 5 49; rustles = (stood - 3) * 100;");
         DUE.is("rustling", x.cheapest(0, 0), -2);
         DUE.is("rustling, whom", x.cheapest(0, 1), -2);

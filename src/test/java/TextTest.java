@@ -41,7 +41,9 @@ public final class TextTest {
         DUE.is("back of the least int", x.back(Integer.MIN_VALUE), -1);
         DUE.is("back too many", x.back(2000), -1);
         DUE.is("count behind them", x.count(9), 1999);
-        DUE.is("back 19", x.back(19), 1980);
+        DUE.is("back 18", x.back(18), 1981);
+        DUE.is("feed 1 too many", x.feed(0, 0, 0, 0, 0), -1);
+        DUE.is("back 1 more", x.back(1), 1980);
         DUE.is("feed to the end", x.feed(0x20202020, 0x20202020, 0x20202020, 0x20202020, 0x20202020), 2000);
         DUE.is("read of 2000 blanks", x.read(), 0);
         DUE.is("tape behind read", x.count(9), 0);
@@ -73,6 +75,8 @@ public final class TextTest {
         fault("hear = 1 > 2;", 1, 9);
         fault("movee 5;", 1, 0);
         fault("mov 5;", 1, 0);
+        fault("nove 5;", 1, 0);
+        fault("mover 5;", 1, 0);
         fault("abcdefghijklmnopqrstuvwxyz", 1, 0);
     }
 
@@ -179,6 +183,17 @@ public final class TextTest {
         fault("clock a 1 1 1 1 1; chance a 1 1 1 1;", 3, 26);
         fault("place a 1; place b 1; place a 1; place b 1;", 3, 28);
         fine("place a 1; place aa 1; place aaa 1; place b 1;");
+        fine("place ab 1; place ba 1; place abc 1; place bca 1;");
+        String full = many("clock ? 1 1 1 1 1;", 8) + many("place p? 1;", 4) + many("shot s? 1 1;", 5);
+        fine(full + "shot z 1 1;");
+        for (int i = 0; i < 8; i++) {
+            fault(full + "shot " + (char) ('a' + i) + " 1 1;", 3, full.length() + 5);
+        }
+        for (int i = 0; i < 4; i++) {
+            fault(full + "shot p" + (char) ('a' + i) + " 1 1;", 3, full.length() + 5);
+            fault(full + "shot s" + (char) ('a' + i) + " 1 1;", 3, full.length() + 5);
+        }
+        fault(full + "shot se 1 1;", 3, full.length() + 5);
         fault("place abcdefgh 1; place abcdefgi 1; place abcdefgh 1;", 3, 42);
         fault("place a 10; shot a 1 1;", 5, 8);
         fault("place a 1; shot a 0 1;", 3, 16);
@@ -255,6 +270,25 @@ public final class TextTest {
         DUE.is("slot", x.restore(1), false);
     }
 
+    /** Of a text ahead nothing is left, neither in what is told nor in what is counted for its FAULTS. */
+    private static void textBehindText() {
+        String full = many("clock ? 1 1 1 1 1;", 8) + many("place p? 1;", 4) + many("shot s? 1 99;", 6);
+        QuietTake x = DUE.told(full + "hear = 7; bears = 8; rustles = 100; move 1; coins 2; seed 3;");
+        DUE.is("loud", x.loud(0, 0), 50);
+        DUE.is("as full a text", Feeding.read(x, full), 0);
+        DUE.is("hear", x.heard(0, 0, 1), 1);
+        DUE.is("bears", x.bears(0, 0), 99);
+        DUE.is("rustles", x.loud(0, 0), 0);
+        DUE.is("coins", x.count(6), 50);
+        DUE.is("move", x.moves(1), 5);
+        DUE.is("by chance", Feeding.read(x, "chance c 60 1 9 0; place p 0; seed 9999;"), 0);
+        DUE.is("by seed 9999", x.loud(0, 1), 0);
+        DUE.is("by chance again", Feeding.read(x, "chance c 60 1 9 0; place p 0;"), 0);
+        DUE.is("by seed 0", x.loud(0, 0), 9);
+        DUE.is("louder", Feeding.read(x, "chance c 60 1 19 0; place p 0;"), 0);
+        DUE.is("by another text", x.loud(0, 0), 19);
+    }
+
     private static void theLastOne() {
         QuietTake x = DUE.told("place p 0; place q 0; move 9; move 2; coins 3; coins 4; clock c 0 1 1 9 0; shot s 1 0;"
             + "hear = 1; hear = 2; bears = 3; bears = 4; rustles = 100; rustles = 0;");
@@ -280,6 +314,7 @@ public final class TextTest {
         fourHundredTokens();
         twiceAndWrong();
         whatReadChanges();
+        textBehindText();
         theLastOne();
         DUE.end();
     }

@@ -167,6 +167,9 @@ public final class ThingsTest {
         x = DUE.told("chance a 22 3 10 0; chance b 8 1 20 0; place p 0; seed 9999;");
         DUE.is("seed 9999: 21 of 22", x.heard(0, 0, 0), 10);
         DUE.is("seed 9999: 8 of 8", x.noise(1, 4), 0);
+        // LOT 100 of SEED 16: of -8 it would be 1, of 0 it is 98. No NOISE begins ahead of SECOND 0.
+        x = DUE.told("chance a 50 20 10 0; place p 0; seed 16;");
+        DUE.is("seed 16: nothing ahead of 0", x.heard(0, 0, 0), 0);
         int[] odds = {6, 7, 84, 85};
         int[] first = {0, 50, 50, 50};
         int[] second = {0, 0, 0, 50};
@@ -174,6 +177,10 @@ public final class ThingsTest {
             x = DUE.told("place p 0; rustles = " + odds[i] + ";");
             DUE.is("rustling at 0 by " + odds[i], x.loud(0, 0), first[i]);
             DUE.is("rustling at 1 by " + odds[i], x.loud(0, 1), second[i]);
+        }
+        x = DUE.told("place p 0; rustles = 1;");
+        for (int n = 0; n <= 300; n++) {
+            DUE.is("rustling by 1 at " + n, x.loud(0, n), PlainModel.lot(100, 0, 8 * n + 4000000) == 0 ? 50 : 0);
         }
         x = DUE.told("chance c 100 1 10 0; place p 0;");
         x.waits(300);

@@ -53,9 +53,12 @@ public final class WouldBeTest {
         DUE.is("softest 7", x.softest(0, 7, 0), 0);
         DUE.is("when", x.softest(0, 7, 1), 5);
         DUE.is("softest 2", x.softest(0, 2, 1), 0);
+        DUE.is("softest 1", x.softest(0, 1, 0), 0);
         DUE.is("softest 8", x.softest(0, 8, 0), 70);
         DUE.is("of alike ones the first", x.softest(0, 8, 1), 0);
         DUE.is("softest at b", x.softest(1, 30, 0), 30);
+        x.waits(4);
+        DUE.is("softest at 1", x.softest(0, 7, 1), 1);
         x = DUE.told(wall(299));
         DUE.is("softest at 300", x.softest(0, 30, 1), 300);
         DUE.is("how much", x.softest(0, 30, 0), 0);
@@ -140,6 +143,7 @@ public final class WouldBeTest {
         DUE.is("calmest 300 by the last", x.calmest(300), 1);
         x = DUE.told("clock c 0 1 1 60 0; place p 3; place q 4; hear = loud - far * 10; rustles = 100;");
         DUE.is("alike by rustling", x.calmest(3), 0);
+        DUE.is("as loud as can be", DUE.told("clock c 0 1 1 99 0; place p 3;").calmest(3), 0);
     }
 
     private static void ours() {
