@@ -1426,7 +1426,7 @@ public final class QuietTake {
 
         /** HEARD of a NOISE that has an AGE. */
         int heardOf(int noise, int place, int t, int age) {
-            if (age < 0 || place >= script.places) {
+            if (age < 0 || place < 0 || place >= script.places) {
                 return 0;
             }
             hearVars[0] = script.loudness[noise];

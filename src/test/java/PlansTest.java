@@ -105,6 +105,8 @@ public final class PlansTest {
         DUE.is("it can at 300: how much", x.bribe(0, 1), 300);
         x = DUE.told("place p 0; shot s 1 9; clock n 0 99 1 50 0;");
         DUE.is("sooner by 1", x.bribe(0, 1), 1);
+        x = DUE.told("place p 0; shot s 1 0; clock n 0 1 1 1 0;");
+        DUE.is("nothing at all is borne", x.bribe(0, 1), 301);
         x = DUE.told("place p 0; shot s 1 9; clock m 0 1 1 40 0; clock n 0 1 1 50 0;");
         DUE.is("the softer one is in the way too", x.bribe(0, 0), -2);
         // Paid for 300 SECONDS: a TAKE of 9 can begin at 291, not at 292.

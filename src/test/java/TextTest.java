@@ -281,10 +281,10 @@ public final class TextTest {
         DUE.is("rustles", x.loud(0, 0), 0);
         DUE.is("coins", x.count(6), 50);
         DUE.is("move", x.moves(1), 5);
-        DUE.is("by chance", Feeding.read(x, "chance c 60 1 9 0; place p 0; seed 9999;"), 0);
-        DUE.is("by seed 9999", x.loud(0, 1), 0);
-        DUE.is("by chance again", Feeding.read(x, "chance c 60 1 9 0; place p 0;"), 0);
-        DUE.is("by seed 0", x.loud(0, 0), 9);
+        DUE.is("by chance", Feeding.read(x, "chance c 30 1 9 0; place p 0; seed 9999;"), 0);
+        DUE.is("by seed 9999", x.loud(0, 0), 9);
+        DUE.is("by chance again", Feeding.read(x, "chance c 30 1 9 0; place p 0;"), 0);
+        DUE.is("by seed 0", x.loud(0, 0), 0);
         DUE.is("louder", Feeding.read(x, "chance c 60 1 19 0; place p 0;"), 0);
         DUE.is("by another text", x.loud(0, 0), 19);
     }

@@ -65,6 +65,10 @@ public final class WouldBeTest {
         x = DUE.told(wall(300));
         DUE.is("softest beyond 300", x.softest(0, 30, 1), 0);
         DUE.is("how much of it", x.softest(0, 30, 0), 10);
+        x = DUE.told("clock c 0 1 1 99 0; place p 0;");
+        DUE.is("as loud as can be", x.softest(0, 30, 0), 99);
+        DUE.is("as loud as can be, when", x.softest(0, 30, 1), 0);
+        x = DUE.told(wall(299));
         DUE.is("softest 0", x.softest(0, 0, 0), -1);
         DUE.is("softest 31", x.softest(0, 31, 0), -1);
         DUE.is("softest what 2", x.softest(0, 1, 2), -1);
