@@ -419,6 +419,9 @@ public final class QuietTake {
         if (!isShot(shot) || !within(what, 0, 1)) {
             return NONE;
         }
+        if (script.places == 0) {
+            return NOT;
+        }
         survey.face(state.place);
         int unpaid = survey.firstGood(shot, 0, AHEAD);
         if (unpaid < 0) {
@@ -484,6 +487,9 @@ public final class QuietTake {
         if (!isShot(shot)) {
             return NONE;
         }
+        if (script.places == 0) {
+            return NOT;
+        }
         survey.face(state.place);
         int all = script.allSeconds(shot);
         int joined = state.joined[shot];
@@ -498,6 +504,9 @@ public final class QuietTake {
     public int odds(int shot, int n, int s) {
         if (!isShot(shot) || !within(n, 0, AHEAD) || !within(s, 1, MOST_SEEDS)) {
             return NONE;
+        }
+        if (script.places == 0) {
+            return 0;
         }
         int good = 0;
         for (int i = 0; i < s; i++) {

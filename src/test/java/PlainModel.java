@@ -895,6 +895,9 @@ final class PlainModel {
         if (noShot(shot)) {
             return NONE;
         }
+        if (script.places.isEmpty()) {
+            return NOT;
+        }
         int length = script.shots.get(shot).length;
         int bits = going.joined[shot];
         for (int takes = 0; takes <= 20; takes++) {
@@ -909,6 +912,9 @@ final class PlainModel {
     int odds(int shot, int n, int s) {
         if (noShot(shot) || out(n, 0, 300) || out(s, 1, 20)) {
             return NONE;
+        }
+        if (script.places.isEmpty()) {
+            return 0;
         }
         int good = 0;
         for (int seed = script.seed; seed < script.seed + s; seed++) {

@@ -197,9 +197,9 @@ public final class PlansTest {
         DUE.is("twenty-one", DUE.told("clock a 0 999 20 50 0; place p 0; shot s 1 9;").join(0), -2);
         DUE.is("twenty of nine",
             DUE.told("clock a 0 1 1 50 0; place p 0; shot s 9 9; bears = day/171*99;").join(0), 20);
-        // Nothing is HEARD without PLACES, RUSTLING is.
-        DUE.is("no places", DUE.told("clock a 0 1 1 50 0; shot s 2 9;").join(0), 1);
-        DUE.is("no places, rustling", DUE.told("shot s 2 9; rustles = 100;").join(0), -2);
+        // Without PLACES there is no TAKE, however quiet it is.
+        DUE.is("no places", DUE.told("shot s 2 99;").join(0), -2);
+        DUE.is("no places, no shot", DUE.told("shot s 2 99;").join(1), -1);
     }
 
     private static void odds() {
@@ -229,8 +229,12 @@ public final class PlansTest {
         DUE.is("shot -1", x.odds(-1, 0, 1), -1);
         x.pay(0, 300);
         DUE.is("paid", x.odds(1, 298, 20), 20);
-        DUE.is("no places", DUE.told("clock a 0 1 1 50 0; shot s 2 9;").odds(0, 0, 5), 5);
-        DUE.is("no places, rustling", DUE.told("shot s 2 9; rustles = 100;").odds(0, 0, 5), 0);
+        // Without PLACES there is no TAKE, however quiet it is.
+        x = DUE.told("shot s 2 99;");
+        DUE.is("no places", x.odds(0, 0, 5), 0);
+        DUE.is("no places, no shot", x.odds(1, 0, 5), -1);
+        DUE.is("no places, no such n", x.odds(0, 301, 5), -1);
+        DUE.is("no places, no such s", x.odds(0, 0, 21), -1);
     }
 
     public static void main(String[] args) {
