@@ -425,9 +425,10 @@ public final class EdgesOfTextTest {
     }
 
     private static QuietTake used() {
-        QuietTake x = DUE.told("clock c 1 7 3 60 2; chance d 30 2 40 3; place p 0; place q 2; shot s 3 45; shot t 1 0;"
+        QuietTake x = DUE.told("clock c 1 7 3 60 2; chance d 30 2 40 3; place p 0; place q 2; shot s 3 45; shot t 1 99;"
             + "hear = loud - far * 9; bears = limit + second; rustles = stood * 2; move 4; coins 40; seed 5;");
         x.take(0);
+        DUE.is("a GOOD one", x.take(1), 1);
         x.hold(1);
         x.moves(1);
         x.pay(1, 5);
@@ -443,7 +444,7 @@ public final class EdgesOfTextTest {
             DUE.is("read", Feeding.read(x, text), 0);
             Twins.compare(DUE, "'" + text + "' behind another text", x, DUE.told(text));
         }
-        String same = "clock c 1 7 3 60 2; chance d 30 2 40 3; place p 0; place q 2; shot s 3 45; shot t 1 0; coins 8;";
+        String same = "clock c 1 7 3 60 2; chance d 30 2 40 3; place p 0; place q 2; shot s 3 45; shot t 1 99; coins 8;";
         QuietTake x = used();
         DUE.is("a text of as many", Feeding.read(x, same), 0);
         Twins.compare(DUE, "as many behind another text", x, DUE.told(same));
@@ -454,7 +455,9 @@ public final class EdgesOfTextTest {
             DUE.is("count " + what, x.count(what), want[what]);
         }
         DUE.is("nobody paid", x.noise(1, 6), 0);
-        DUE.is("no takes", x.shot(0, 2) + x.shot(0, 3) + x.shot(0, 4) + x.shot(0, 5), 0);
+        for (int what = 2; what < 6; what++) {
+            DUE.is("no takes, " + what, x.shot(0, what) + x.shot(1, what), 0);
+        }
         DUE.is("nothing can be undone", x.undo(), false);
         DUE.is("SLOTS hold nothing", x.restore(1), false);
         DUE.is("nothing is TOLD", x.when(1, -1), -1);

@@ -121,6 +121,8 @@ public final class EdgesOfWouldBeTest {
         }
         softest("the last of 30 is 329", DUE.told(wall(299) + "clock z 329 999 1 9 0; place p 0;"), 30, 9, 300);
         softest("330 is none", DUE.told(wall(299) + "clock z 330 999 1 9 0; place p 0;"), 30, 0, 300);
+        softest("98 once", DUE.told("clock c 0 1 1 99 0; place p 0; hear = if day < 8 then 99 else if day < 9 then 98 else 99;"),
+            1, 98, 8);
         softest("of alike ones the first", DUE.told("clock c 0 3 2 7 0; place p 0;"), 1, 0, 2);
         softest("of alike ones the first, 2", DUE.told("clock c 0 3 2 7 0; place p 0;"), 2, 7, 0);
         QuietTake x = walled(98, "place q 0;");
@@ -211,6 +213,9 @@ public final class EdgesOfWouldBeTest {
         x = DUE.told("clock c 4 5 1 99 0; place p 0;");
         DUE.is("as loud as can be", x.peak(0, 0), 99);
         DUE.is("for the first time", x.peak(0, 1), 4);
+        x = DUE.told("clock c 0 1 1 98 0; clock d 9 999 1 99 0; place p 0;");
+        DUE.is("98, then as loud as can be", x.peak(0, 0), 99);
+        DUE.is("98, then as loud as can be: when", x.peak(0, 1), 9);
         x = DUE.told("place p 0; rustles = (stood - 298) * 100;");
         DUE.is("rustling in 299", x.peak(0, 0) * 1000 + x.peak(0, 1), 50299);
         x = DUE.told("place p 0; rustles = (stood - 299) * 100;");
@@ -236,6 +241,8 @@ public final class EdgesOfWouldBeTest {
         DUE.is("-1", x.calmest(-1), -1);
         x = DUE.told("clock a 0 1 1 99 0; place p 0; place q 0;");
         DUE.is("all as loud as can be", x.calmest(300), 0);
+        x = DUE.told("clock a 0 1 1 99 0; place p 0; place q 1; hear = loud - far;");
+        DUE.is("all but one", x.calmest(300), 1);
         x = DUE.told("clock a 0 1 1 40 0;");
         DUE.is("no PLACES", x.calmest(1), -2);
         DUE.is("no PLACES, no such n", x.calmest(0), -1);

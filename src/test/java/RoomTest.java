@@ -98,9 +98,9 @@ public final class RoomTest {
     private static void measureCalls() {
         com.sun.management.ThreadMXBean threads = (com.sun.management.ThreadMXBean) ManagementFactory.getThreadMXBean();
         int[][] words = Feeding.words(TEXT);
-        QuietTake x = new QuietTake();
         long least = Long.MAX_VALUE;
         for (int round = 0; round < 9; round++) {
+            QuietTake x = new QuietTake();
             long ahead = threads.getCurrentThreadAllocatedBytes();
             callAll(x, words, Feeding.blanks(TEXT));
             least = Math.min(least, threads.getCurrentThreadAllocatedBytes() - ahead);
