@@ -371,7 +371,24 @@ public final class EdgesOfPlansTest {
         DUE.is("no PLACES, no such SHOT", x.odds(1, 0, 1), -1);
     }
 
+    /** 'all at the PLACE where one is .. (a GOOD TAKE, here) .. a TAKE here, now .. from now on, here'. */
+    private static void here() {
+        QuietTake x = DUE.told("clock n 0 1 1 50 2; place p 0; place q 1; shot s 2 49; hear = loud - far; move 3;");
+        int[] loud = {-2, 1, 301, 4, 0, -2, 0};
+        int[] quiet = {2, 0, -2, 0, -2, 1, 20};
+        for (int turn = 0; turn < 4; turn++) {
+            int[] want = turn % 2 == 0 ? loud : quiet;
+            int[] got = {x.order(-1), x.cellar(2000, 0), x.bribe(0, 1), x.cheapest(0, 0), x.breakOff(0, 0), x.join(0),
+                x.odds(0, 0, 20)};
+            for (int i = 0; i < want.length; i++) {
+                DUE.is("turn " + turn + ", plan " + i, got[i], want[i]);
+            }
+            x.moves(1 - turn % 2);
+        }
+    }
+
     public static void main(String[] args) {
+        here();
         fiveAtMost();
         waitingAtMost();
         ofAlikeOrders();
